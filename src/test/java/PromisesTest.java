@@ -140,7 +140,21 @@ public final class PromisesTest {
         due("a thirteenth", law(x, full + ";q"), -4096);
         due("what can't be one", law(x, full + ";x"), -1096);
         due("the end there", law(x, full + ";"), -1096);
-        due("160 bytes", law(x, "q" + times("1+", 76) + "1(1=1)"), 1);
+        due("160 bytes", law(x, "q" + times("1+", 76) + "11(1=1)"), 1);
+        put(x, "q" + times("1+", 76) + "111(1=1)");
+        due("161 bytes", x.law(161), -1);
+        due("the tape stays", x.count(7), 180);
+        HullTank y = threeCorners();
+        y.hull(1);
+        law(y, "q3(1=1);d2(1=1)");
+        y.flown(0, 7, 1);
+        law(y, "q4(1=1);d1(1=1)");
+        y.flown(0, 7, 1);
+        due("the new one counts", y.cornerIs(0, 0, 0), 3);
+        due("the new one counts", y.cornerIs(0, 0, 2), 4);
+        due("the new one counts", y.odds(0, 7, 3, 8), 6);
+        law(y, "d2(1=1)");
+        due("the new one counts", y.odds(0, 7, 3, 8), 12);
     }
 
     private static void faults() {
@@ -242,6 +256,9 @@ public final class PromisesTest {
         due("a fault", program(x, 0, "3*x"), -1002);
         due("the one before stays", x.count(20), 5);
         due("60 bytes", program(x, 1, times("01*0001;", 7) + "01*1"), 8);
+        put(x, times("01*0001;", 7) + "01*01");
+        due("61 bytes", x.program(1, 61), -1);
+        due("the tape stays", x.count(7), 80);
         HullTank y = threeCorners();
         program(y, 0, "1*2");
         program(y, 0, "1*3");
@@ -534,6 +551,15 @@ public final class PromisesTest {
         y.life(0, 2001, 1);
         due("half do", y.likely(1, 0, 0, 500), 1999);
         due("2001 would do", y.likely(1, 0, 0, 501), -2);
+        program(y, 0, "1*2000");
+        due("no flights behind it", y.likely(1, 0, 0, 1000), -2);
+        HullTank z = new HullTank();
+        z.corner(0, 1, 1, 1);
+        z.life(0, 1, 2);
+        z.life(0, 2, 1);
+        law(z, "d1(1=1)");
+        due("two thirds are more than 666", z.likely(1, 0, 0, 666), 1);
+        due("but below 667", z.likely(1, 0, 0, 667), 2);
     }
 
     private static void off() {
@@ -621,6 +647,14 @@ public final class PromisesTest {
         due("half", x.cheapest(500), 2);
         due("more than half", x.cheapest(501), 1);
         due("all", x.cheapest(1000), 1);
+        law(x, "d1(c=0)");
+        x.trial(1, 0, 0, 5, 1);
+        x.life(0, 4, 1);
+        due("two of four", x.cheapest(500), 5);
+        x.life(0, 4, 2);
+        due("four of six by 5", x.says(5, 0), 2);
+        due("not below 666", x.cheapest(666), 5);
+        due("but below 667", x.cheapest(667), 1);
         due("0", x.cheapest(0), -1);
         due("1001", x.cheapest(1001), -1);
     }
@@ -742,6 +776,26 @@ public final class PromisesTest {
         x.tells(2, 0, 10);
         x.tells(2, 1, 10);
         due("nothing weighs: the lowest", x.moves(), 0);
+        HullTank y = new HullTank();
+        y.story(10);
+        y.story(20);
+        y.find();
+        y.find();
+        y.tells(0, 0, 0);
+        y.tells(0, 1, 10);
+        y.tells(1, 0, 10);
+        y.tells(1, 1, 0);
+        due("200 and 100, 100 and 200", y.moves(), 0);
+        y.tells(0, 1, 9);
+        due("180 and 100", y.moves(), 1);
+        y.tells(1, 1, 1);
+        due("180 and 100, 100 and 180", y.moves(), 0);
+        HullTank z = new HullTank();
+        z.story(1);
+        z.find();
+        z.find();
+        z.tells(1, 0, 10);
+        due("5 and 5, 10 and 0", z.moves(), 0);
     }
 
     private static void wind() {
@@ -953,6 +1007,12 @@ public final class PromisesTest {
         due("a fourth three", x.check(0, 4), 9);
         x.feed(1, 3, 1, 0, 3);
         due("not by numbers", x.check(0, 1), 0);
+        for (int i = 0; i < 3; i++) {
+            for (int shift = 0; shift < 32; shift += 8) {
+                x.feed(i == 0 ? 1 << shift : 0, i == 1 ? 3 ^ 1 << shift : 3, i == 2 ? 1 ^ 1 << shift : 1, 0, 0);
+                due("four bytes each", x.check(0, 1), i);
+            }
+        }
     }
 
     private static void count() {
