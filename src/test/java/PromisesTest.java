@@ -627,6 +627,21 @@ public final class PromisesTest {
         due("-1", x.says(-1, 0), -1);
         due("what 2", x.says(0, 2), -1);
         due("what -1", x.says(0, -1), -1);
+        HullTank y = threeCorners();
+        int[] lostBy = {0, 0, 0, 6, 6, 6, 12, 12, 12};
+        int[] off = {-100000, -100000, -100000, -2, -1, 0, -2, -1};
+        for (int i = 0; i < 8; i++) {
+            program(y, i, "5*" + (i + 1));
+            y.trial(7, i, 0, 0, 1);
+        }
+        for (int i = 0; i < 8; i++) program(y, i, "5*" + (8 - i));
+        for (int i = 0; i < 8; i++) {
+            for (int k = 0; k < 8; k++) {
+                due("program " + k + " now", y.odds(k, 0, 0, 8), lostBy[8 - k]);
+                due("trial " + i + ", by the program then", 12 * y.says(i, 0) / y.says(i, 1), lostBy[i + 1]);
+                due("without a program", y.off(7, k, 0), off[k]);
+            }
+        }
         x.life(0, 3, 2);
         due("lives as they are now", x.says(0, 0), 3);
         due("lives as they are now", x.says(0, 1), 5);
