@@ -80,7 +80,7 @@ public final class BoundariesTest {
         x.lies(100, 5);
         x.lies(77, 2);
         x.lies(5, 0);
-        tapeOfSeven(x);
+        tapeOfForty(x);
         return x;
     }
 
@@ -109,18 +109,16 @@ public final class BoundariesTest {
         for (int f = 0; f < 10; f++) x.find();
         for (int i = 0; i < 10; i++) x.lies(100000 - i, 1000 - i);
         for (int h = 0; h < 10 && hulls; h++) x.hull(h);
-        tapeOfSeven(x);
+        tapeOfForty(x);
         return x;
     }
 
-    /** The tape shows at last whether it has stayed: then its first seven bytes are a law. */
-    private static void tapeOfSeven(HullTank x) {
-        if (x.count(7) > 0) x.law(1);
-        Texts.feed(x, "q7(1=1)");
-        x.feed(1, 2, 3, 4, 5);
+    /** The tape shows at last whether it has stayed: then its first forty bytes are a law, by which q is 26. */
+    private static void tapeOfForty(HullTank x) {
+        put(x, "q" + times("1+", 16) + "10(1=1)");
     }
 
-    /** All that later calls show, the tape at last. */
+    /** All that later calls show, the tape at last, which must be as it was told. */
     private static long[] view(HullTank x) {
         long[] seen = new long[400];
         int n = 0;
@@ -156,8 +154,7 @@ public final class BoundariesTest {
             seen[n++] = x.span(i, 1);
             seen[n++] = x.order(i, 0);
         }
-        seen[n++] = x.check(0, 2);
-        seen[n++] = x.law(7);
+        seen[n++] = x.law(40);
         seen[n++] = x.pull(0, 0, 0);
         return seen;
     }
@@ -1338,6 +1335,19 @@ public final class BoundariesTest {
         law(t, "d2(p=1);d1(1=1)");
         due("trial 7: of 4 by 1 1", t.says(7, 0), 1);
         due("the hull by 4, the piece by 3 and 3", t.off(1, 0, 0), 3 - 4);
+
+        sentence = "CORNERS with four LIVES, one asked ahead of the other";
+        for (int first = 1; first <= 3; first++) {
+            HullTank u = new HullTank();
+            u.corner(0, 1, 1, 1);
+            u.corner(0, 1, 1, 1);
+            for (int i = 0; i < 4; i++) { u.life(0, 10 + i, 1); u.life(1, 5 + i, 1); }
+            law(u, "d1(1=1)");
+            due("piece " + first, u.likely(first, 0, 0, 1), first == 1 ? 10 : 5);
+            due("all", u.likely(3, 0, 0, 1), 5);
+            due("corner 0", u.likely(1, 0, 0, 1000), 13);
+            due("corner 1", u.likely(2, 0, 0, 1000), 8);
+        }
 
         sentence = "in place of the one before";
         HullTank v = sure(1);
